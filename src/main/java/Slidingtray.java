@@ -934,25 +934,20 @@ public final class Slidingtray {
             return hasClash ? count : 0;
         }
 
+        /** The least that tiles of the line weigh without which no two of the others clash. */
         private int leastStake(int count) {
-            int all = (1 << count) - 1;
-            int least = NONE;
-            for (int stay = 0; stay <= all; stay++) {
-                int sum = stakeWhen(stay, count);
-                if (sum != NONE && (least == NONE || sum < least)) least = sum;
+            int least = MOST_SIDE * MOST_WEIGHT;
+            for (int stay = 0; stay < 1 << count; stay++) {
+                int sum = 0;
+                boolean hasClash = false;
+                for (int index = 0; index < count; index++) {
+                    boolean stays = (stay >> index & 1) == 1;
+                    hasClash = hasClash || stays && (clashes[index] & stay) != 0;
+                    if (!stays) sum += stakes[index];
+                }
+                if (!hasClash) least = Math.min(least, sum);
             }
-            return least == NONE ? 0 : least;
-        }
-
-        /** What the tiles weigh that are taken out when those told by bits stay; NONE if these clash. */
-        private int stakeWhen(int stay, int count) {
-            int sum = 0;
-            for (int index = 0; index < count; index++) {
-                boolean stays = (stay >> index & 1) == 1;
-                if (stays && (clashes[index] & stay) != 0) return NONE;
-                if (!stays) sum += stakes[index];
-            }
-            return sum;
+            return least;
         }
     }
 
@@ -1086,11 +1081,16 @@ public final class Slidingtray {
         void put(int item, long key, long second) {
             keys[item] = key;
             seconds[item] = second;
-            if (spots[item] == NONE) {
-                spots[item] = count;
+            int spot = spots[item];
+            if (spot == NONE) {
+                spot = count;
                 count++;
             }
-            rise(item, spots[item]);
+            while (spot > 0 && isBefore(item, heap[(spot - 1) / 2])) {
+                place(heap[(spot - 1) / 2], spot);
+                spot = (spot - 1) / 2;
+            }
+            place(item, spot);
         }
 
         /** Takes the first item out; NONE if none waits. */
@@ -1111,15 +1111,6 @@ public final class Slidingtray {
         private void place(int item, int spot) {
             heap[spot] = item;
             spots[item] = spot;
-        }
-
-        private void rise(int item, int from) {
-            int spot = from;
-            while (spot > 0 && isBefore(item, heap[(spot - 1) / 2])) {
-                place(heap[(spot - 1) / 2], spot);
-                spot = (spot - 1) / 2;
-            }
-            place(item, spot);
         }
 
         private void sink(int item) {
@@ -1182,6 +1173,9 @@ public final class Slidingtray {
 
     /** BEST FIRST. */
     static final class BestFirst {
+        // With the sign turned, packed numbers are ordered as without one.
+        private static final long SIGN = 1L << 63;
+
         int taken;
         private final Found found = new Found(MOST_FOUND, 13);
         private final int[] costs = new int[MOST_FOUND];
@@ -1234,7 +1228,7 @@ public final class Slidingtray {
             parents[state] = parent;
             moves[state] = direction;
             long key = (long) (cost + rests[state]) << 32 | rests[state];
-            puzzle.agenda.put(state, key, work.packed ^ Long.MIN_VALUE);
+            puzzle.agenda.put(state, key, work.packed ^ SIGN);
         }
 
         /** Copies the way that was found; returns how many moves it has. */
