@@ -829,7 +829,7 @@ public final class Slidingtray {
         private final Part[] parts = new Part[MOST_PARTS];
         private int partCount;
         // The tiles of one line that may be in each other's way: what they weigh, where on the line they
-        // belong, and with which of the others (as bits) they clash.
+        // belong, and with which of those ahead of them (as bits) they clash.
         private final int[] stakes = new int[MOST_SIDE];
         private final int[] targets = new int[MOST_SIDE];
         private final int[] clashes = new int[MOST_SIDE];
@@ -927,7 +927,6 @@ public final class Slidingtray {
                     if (targets[other] < target) continue;
                     hasClash = true;
                     clashes[count] |= 1 << other;
-                    clashes[other] |= 1 << count;
                 }
                 count++;
             }
@@ -1273,16 +1272,11 @@ public final class Slidingtray {
                 rounds++;
                 int end = goThrough(puzzle, kind, bound, limit);
                 if (end == REACHED) return costs[depth];
-                if (end == CLOSED) return stop(NONE);
-                if (end == REFUSED) return stop(REFUSED);
+                if (end == CLOSED) return NONE;
+                if (end == REFUSED) return REFUSED;
                 bound = end;
             }
-            return stop(REFUSED);
-        }
-
-        private int stop(int answer) {
-            depth = 0;
-            return answer;
+            return REFUSED;
         }
 
         private int goThrough(Puzzle puzzle, int kind, int bound, int limit) {
@@ -1331,7 +1325,7 @@ public final class Slidingtray {
             return true;
         }
 
-        /** Copies the way that was found; returns how many moves it has. */
+        /** Copies the way that was found; returns how many moves it has: a round without a way ends where it began. */
         int copyWay(int[] way) {
             int length = Math.min(depth, way.length);
             System.arraycopy(row, 0, way, 0, length);
@@ -1425,9 +1419,9 @@ public final class Slidingtray {
         private final int[] guesses = new int[SMALL_TRAY_STATES];
         private final Lie work = new Lie();
 
+        /** Forgets what stands on the tray alone; the costs must be forgotten, too. */
         void forgetTray() {
             isMapped = false;
-            isReckoned = false;
         }
 
         void forgetCosts() {

@@ -233,6 +233,13 @@ public final class QuestionTest {
         // 3 2 1: all but the heaviest go
         x.setWeight(1, 9);
         Check.same("19: all but the heaviest go", x.estimate(3), 2 * 9 + 2 * 5 + 2 * 10);
+        x.tray(4, 4, 0);
+        x.lay(3 * 1307674368000L + 2 * 87178291200L + 6227020800L);
+        for (int tile = 1; tile <= 4; tile++) {
+            x.setWeight(tile, 9);
+        }
+        // 4 3 2 1: three of the heaviest go
+        Check.same("19: the most that a row adds", x.estimate(3), 8 * 9 + 2 * 27);
     }
 
     private static void parts() {

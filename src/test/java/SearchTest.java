@@ -255,6 +255,17 @@ public final class SearchTest {
         Check.same("22: 24 are enough", x.both(), -1);
         x.setLimit(23);
         Check.throwsIt("22: 23 are too few", STATE, () -> x.both());
+        for (int limit = 990; limit <= 1000; limit++) {
+            Slidingtray large = new Slidingtray();
+            large.setLimit(limit);
+            large.lay(2);
+            Check.throwsIt("22: no way, by more than " + limit, STATE, () -> large.both());
+            large.tray(4, 4, 0);
+            large.lay(2);
+            Check.throwsIt("22: no way on a large tray, by more than " + limit, STATE, () -> large.both());
+            Check.throwsIt("20: no way on a large tray, by more than " + limit, STATE, () -> large.solve(3));
+            Check.throwsIt("21: no way on a large tray, by more than " + limit, STATE, () -> large.deepen(3));
+        }
     }
 
     private static void searched() {
